@@ -15,6 +15,7 @@ public final class GuardOfSums {
     private static final int NARROWING_ROUNDS = 60;
     private static final int MOST_LOTS = 20;
     private static final int ASKED_PER_LOT = 8;
+    private static final int WITHOUT_SIGN = 0x7fffffff;
 
     private static final int FITS = 0;
     private static final int NOBODY = -1;
@@ -417,7 +418,7 @@ public final class GuardOfSums {
             draft.copyFrom(world);
             for (int asked = 0; asked < ASKED_PER_LOT; asked++) {
                 seed = seed * 1664525 + 1013904223;
-                int drawn = (seed & Integer.MAX_VALUE) / 256 % EVERYBODY;
+                int drawn = (seed & WITHOUT_SIGN) / 256 % EVERYBODY;
                 if (takeSum(draft, 1 + drawn) == wanted) {
                     found++;
                 }
@@ -514,7 +515,7 @@ public final class GuardOfSums {
             case 3:
                 return world.limit;
             case 4:
-                return world.boundBits();
+                return world.usedBits();
             case 5:
                 return world.valuesOfPeople();
             case 6:
@@ -863,7 +864,7 @@ public final class GuardOfSums {
             return true;
         }
 
-        int boundBits() {
+        int usedBits() {
             int bits = 0;
             for (int variable = 0; variable < VARIABLES; variable++) {
                 if (!isFree(variable)) {
@@ -1040,12 +1041,12 @@ public final class GuardOfSums {
         }
 
         private boolean narrowByRow(World world, int i) {
-            int lowEnd = 0;
-            int highEnd = 0;
+            int lowEnds = 0;
+            int highEnds = 0;
             for (int variable = 0; variable < variables; variable++) {
                 int coefficient = world.coefficient(i, variable);
-                lowEnd += lowEnd(coefficient, variable);
-                highEnd += highEnd(coefficient, variable);
+                lowEnds += lowEnd(coefficient, variable);
+                highEnds += highEnd(coefficient, variable);
             }
             int answer = world.answerOf(i);
             boolean isMoving = false;
@@ -1054,14 +1055,14 @@ public final class GuardOfSums {
                 if (coefficient == 0) {
                     continue;
                 }
-                int lowOfOthers = lowEnd - lowEnd(coefficient, variable);
-                int highOfOthers = highEnd - highEnd(coefficient, variable);
+                int lowOfOthers = lowEnds - lowEnd(coefficient, variable);
+                int highOfOthers = highEnds - highEnd(coefficient, variable);
                 if (narrowOne(variable, coefficient, answer - highOfOthers, answer - lowOfOthers)) {
                     isMoving = true;
                 }
                 // what is narrowed counts at once
-                lowEnd = lowOfOthers + lowEnd(coefficient, variable);
-                highEnd = highOfOthers + highEnd(coefficient, variable);
+                lowEnds = lowOfOthers + lowEnd(coefficient, variable);
+                highEnds = highOfOthers + highEnd(coefficient, variable);
             }
             return isMoving;
         }

@@ -165,6 +165,8 @@ public final class PromisesTest {
         form("s90000003;", 1);
         form("d10000003;", -2000);
         form("d10000002;", 1);
+        form("d12300000;", -2000);
+        form("d12000009;", -2000);
         form("d11111111;", -2000);
         form("d22222222;", -2000);
         form("w000000001;", -2000);
@@ -584,17 +586,21 @@ public final class PromisesTest {
         due("19 by a difference", d.known(), 3);
     }
 
-    /** Narrowing that is still going on in its 60th round. */
+    /** Narrowing that is still going on in its 60th round; then one that tells whether each end counts at once. */
     private static void narrowedByRounds() {
+        narrowedSlowly(new int[] {98, 2, 0, 95, 1, 72, 0, 0},
+            new int[] {3, 2, 0, 1, 1, 29, 0, 0}, new int[] {99, 99, 99, 95, 99, 99, 99, 99});
+        narrowedSlowly(new int[] {98, 2, 32, 95, 1, 72, 0, 0},
+            new int[] {3, 2, 0, 1, 1, 29, 0, 0}, new int[] {99, 99, 99, 95, 99, 99, 99, 20});
+    }
+
+    private static void narrowedSlowly(int[] values, int[] lows, int[] highs) {
         GuardOfSums x = new GuardOfSums();
         SlowGuard y = new SlowGuard();
-        int[] values = {98, 2, 0, 95, 1, 72, 0, 0};
         for (int person = 0; person < 8; person++) {
             due("6 tells", x.tells(person, values[person]), y.tells(person, values[person]));
-        }
-        int[][] bounds = {{0, 3, 99}, {1, 2, 99}, {3, 1, 95}, {4, 1, 99}, {5, 29, 99}};
-        for (int[] b : bounds) {
-            due("8 bounds", x.bounds(b[0], b[1], b[2]), y.bounds(b[0], b[1], b[2]));
+            due("8 bounds", x.bounds(person, lows[person], highs[person]),
+                y.bounds(person, lows[person], highs[person]));
         }
         int[][] asked = {{2, 109, 2}, {0, 15, 79}, {2, 45, 3}, {2, 48, 2}, {2, 81, 3}, {1, 16, 129}, {2, 153, 3}};
         for (int[] q : asked) {
