@@ -2,12 +2,18 @@
 final class Due {
     private int wrong;
     private int looked;
+    private String sentence = "";
+
+    /** The sentence of the document that the next answers belong to. */
+    void sentence(String words) {
+        sentence = words + " | ";
+    }
 
     void is(String call, long got, long want) {
         looked++;
         if (got != want) {
             wrong++;
-            System.out.println(call + " answered " + got + ", due is " + want);
+            System.out.println(sentence + call + " answered " + got + ", due is " + want);
         }
     }
 

@@ -1,10 +1,10 @@
 /** Each promise of the document by runs whose answers were worked out by hand. */
 public final class PromisesTest {
     private static final Due DUE = new Due();
-    private static final int LEAST = Integer.MIN_VALUE;
-    private static final int GREATEST = Integer.MAX_VALUE;
-    private static final long LONG_NOBODY = 4000000000000000001L;
-    private static final long LONG_OTHER = 4000000000000000002L;
+    private static final int LEAST = Guards.LEAST;
+    private static final int GREATEST = Guards.GREATEST;
+    private static final long LONG_NOBODY = Guards.LONG_NOBODY;
+    private static final long LONG_OTHER = Guards.LONG_OTHER;
 
     public static void main(String[] args) {
         newObject();
@@ -50,30 +50,8 @@ public final class PromisesTest {
         DUE.is(call, got, want);
     }
 
-    private static int spell(GuardOfSums x, String text) {
-        int there = x.count(7);
-        for (int i = 0; i < text.length(); i++) {
-            there = x.letter(text.charAt(i));
-        }
-        return there;
-    }
-
-    private static int guardOf(GuardOfSums x, String text) {
-        spell(x, text);
-        return x.guard();
-    }
-
     private static void form(String text, int want) {
-        due("1 guard " + text, guardOf(new GuardOfSums(), text), want);
-    }
-
-    /** Values 10, 20, .. 80. */
-    private static GuardOfSums tens() {
-        GuardOfSums x = new GuardOfSums();
-        for (int person = 0; person < 8; person++) {
-            x.tells(person, 10 * (person + 1));
-        }
-        return x;
+        due("1 guard " + text, Guards.guardOf(new GuardOfSums(), text), want);
     }
 
     private static void newObject() {
@@ -189,9 +167,9 @@ public final class PromisesTest {
     }
 
     private static void guardStatements() {
-        GuardOfSums x = tens();
+        GuardOfSums x = Guards.tens();
         x.bounds(0, 5, 15);
-        due("3 all or nothing", guardOf(x, "v099;c155;b020040;r3;l09;s11000000;v811;"), -2035);
+        due("3 all or nothing", Guards.guardOf(x, "v099;c155;b020040;r3;l09;s11000000;v811;"), -2035);
         due("3 value as before", x.person(0, 0), 10);
         due("3 bounds as before", x.variable(0, 2), 15);
         due("3 variables as before", x.count(1), 8);
@@ -202,7 +180,7 @@ public final class PromisesTest {
         for (int what = 11; what < 17; what++) {
             due("3 nothing is counted", x.count(what), 0);
         }
-        due("3 six", guardOf(x, "v099;c155;b020040;r3;l09;s11000000;"), 6);
+        due("3 six", Guards.guardOf(x, "v099;c155;b020040;r3;l09;s11000000;"), 6);
         due("3 letters are no more", x.count(7), 0);
         due("3 told", x.person(0, 0), 99);
         due("3 told forgets bounds", x.variable(0, 2), 99);
@@ -216,7 +194,7 @@ public final class PromisesTest {
         due("3 joined with the new variable", x.ledger(0, 8), 101);
         due("3 not with the old one", x.ledger(0, 1), 100);
         due("3 answer", x.answer(0), 154);
-        due("3 difference", guardOf(x, "d00120000;w000011113;"), 2);
+        due("3 difference", Guards.guardOf(x, "d00120000;w000011113;"), 2);
         due("3 difference a", x.ledger(1, 2), 101);
         due("3 difference b", x.ledger(1, 3), 99);
         due("3 difference answer", x.answer(1), -10);
@@ -227,7 +205,7 @@ public final class PromisesTest {
     }
 
     private static void person() {
-        GuardOfSums x = tens();
+        GuardOfSums x = Guards.tens();
         due("4 value", x.person(7, 0), 80);
         due("4 variable", x.person(7, 1), 7);
         due("4 free", x.person(7, 2), 1);
@@ -246,7 +224,7 @@ public final class PromisesTest {
     }
 
     private static void variable() {
-        GuardOfSums x = tens();
+        GuardOfSums x = Guards.tens();
         x.bounds(0, 8, 12);
         x.ask(0, 3, 0);
         int[] want = {20, 0, 99, 18, 22, 5, 0};
@@ -288,7 +266,7 @@ public final class PromisesTest {
     }
 
     private static void changes() {
-        GuardOfSums x = tens();
+        GuardOfSums x = Guards.tens();
         due("7 nobody", x.changes(8, 100), -1);
         due("7 below", x.changes(0, -1), -4);
         due("7 above", x.changes(0, 100), -6);
@@ -304,7 +282,7 @@ public final class PromisesTest {
     }
 
     private static void bounds() {
-        GuardOfSums x = tens();
+        GuardOfSums x = Guards.tens();
         due("8 just", x.bounds(0, 10, 10), 1);
         due("8 low", x.variable(0, 1), 10);
         due("8 high", x.variable(0, 2), 10);
@@ -342,7 +320,7 @@ public final class PromisesTest {
     }
 
     private static void ask() {
-        GuardOfSums x = tens();
+        GuardOfSums x = Guards.tens();
         due("11 sum", x.ask(0, 7, GREATEST), 60);
         due("11 difference", x.ask(1, 8, 48), -70);
         due("11 weighed by 1", x.ask(2, 192, 1), 150);
@@ -362,11 +340,11 @@ public final class PromisesTest {
         due("11 in both", x.ask(1, 3, 2), 1000000003);
         due("11 below", x.ask(2, 1, LEAST), 1000000004);
         due("11 rank", x.count(0), 3);
-        GuardOfSums y = tens();
+        GuardOfSums y = Guards.tens();
         due("11 weighed by 2", y.ask(2, 255, 2), 10 + 40 + 30 + 80 + 50 + 120 + 70 + 160);
         due("11 weighed by 3", y.ask(2, 255, 3), 10 + 40 + 90 + 40 + 100 + 180 + 70 + 160);
         due("11 negative is told as it is", y.ask(1, 1, 192), -140);
-        GuardOfSums z = tens();
+        GuardOfSums z = Guards.tens();
         due("11 one alone", z.ask(0, 1, 0), 1000000005);
         due("11 one alone, weighed", z.ask(2, 128, 3), 1000000005);
         due("11 two", z.ask(0, 3, 0), 30);
@@ -374,7 +352,7 @@ public final class PromisesTest {
     }
 
     private static void spannedByEveryRule() {
-        GuardOfSums x = tens();
+        GuardOfSums x = Guards.tens();
         x.ask(0, 3, 0);
         x.ask(0, 12, 0);
         x.ask(0, 240, 0);
@@ -388,7 +366,7 @@ public final class PromisesTest {
     }
 
     private static void would() {
-        GuardOfSums x = tens();
+        GuardOfSums x = Guards.tens();
         due("12 joins", x.would(0, 3, 0), 1);
         due("12 is not asked", x.count(0), 0);
         due("12 refused", x.would(0, 1, 0), 2);
@@ -406,7 +384,7 @@ public final class PromisesTest {
     }
 
     private static void rules() {
-        GuardOfSums x = tens();
+        GuardOfSums x = Guards.tens();
         x.rule(1);
         due("12 six", x.would(0, 63, 0), 1);
         due("12 seven", x.would(0, 127, 0), 2);
@@ -428,7 +406,7 @@ public final class PromisesTest {
         x.rule(2);
         due("12 a pair that was there first", x.would(0, 56, 0), 2);
         due("12 spanned", x.would(0, 199, 0), 0);
-        GuardOfSums y = tens();
+        GuardOfSums y = Guards.tens();
         y.rule(3);
         y.limit(2);
         due("12 first", y.ask(0, 3, 0), 30);
@@ -463,7 +441,7 @@ public final class PromisesTest {
     }
 
     private static void ledgerAndAnswer() {
-        GuardOfSums x = tens();
+        GuardOfSums x = Guards.tens();
         due("14 none", x.ledger(0, 0), -1);
         due("15 none", x.answer(0), LONG_NOBODY);
         x.ask(2, 7, 3);
@@ -492,7 +470,7 @@ public final class PromisesTest {
     }
 
     private static void reduced() {
-        GuardOfSums x = tens();
+        GuardOfSums x = Guards.tens();
         due("17 none", x.pivots(), 0);
         x.ask(2, 14, 3);
         // 0 2 3 1: 1 at the pivot
@@ -521,7 +499,7 @@ public final class PromisesTest {
     }
 
     private static void reducedOverOldVariables() {
-        GuardOfSums x = tens();
+        GuardOfSums x = Guards.tens();
         x.ask(0, 192, 0);
         x.changes(7, 1);
         x.ask(0, 192, 0);
@@ -534,7 +512,7 @@ public final class PromisesTest {
     }
 
     private static void attack() {
-        GuardOfSums x = tens();
+        GuardOfSums x = Guards.tens();
         due("18 alone", x.attack(5, 0), 32);
         due("18 just that", x.attack(5, 1), 1);
         x.ask(0, 3, 0);
@@ -615,7 +593,7 @@ public final class PromisesTest {
     }
 
     private static void learns() {
-        GuardOfSums x = tens();
+        GuardOfSums x = Guards.tens();
         x.tells(0, 99);
         x.tells(1, 98);
         due("20 width", x.learns(0, 3, 0, 0), 2);
@@ -639,7 +617,7 @@ public final class PromisesTest {
     }
 
     private static void order() {
-        GuardOfSums x = tens();
+        GuardOfSums x = Guards.tens();
         due("21 all join", x.order(3, 12, 48, 0), 12);
         due("21 all join", x.order(3, 12, 48, 1), 3);
         due("21 in mind alone", x.count(0), 0);
@@ -660,7 +638,7 @@ public final class PromisesTest {
     }
 
     private static void two() {
-        GuardOfSums x = tens();
+        GuardOfSums x = Guards.tens();
         due("22 both join", x.two(3, 12), 11);
         due("22 the other is refused", x.two(3, 1), 10);
         due("22 the other would fix", x.two(3, 7), 10);
@@ -677,7 +655,7 @@ public final class PromisesTest {
     }
 
     private static void cheapest() {
-        GuardOfSums x = tens();
+        GuardOfSums x = Guards.tens();
         due("23 two", x.cheapest(0), 3);
         due("23 two", x.cheapest(1), 2);
         x.rule(2);
@@ -738,44 +716,37 @@ public final class PromisesTest {
         due("25 other", x.share(LEAST), LONG_OTHER);
     }
 
-    private static void rowOf(GuardOfSums x, int... numbers) {
-        x.clear();
-        for (int number : numbers) {
-            x.row(number);
-        }
-    }
-
     private static void which() {
-        GuardOfSums x = tens();
+        GuardOfSums x = Guards.tens();
         due("26 of none all", x.which(0), 15);
         due("26 of none all", x.which(1), 2047);
-        rowOf(x, 3, 1);
+        Guards.rowOf(x, 3, 1);
         due("26 joins but by pairs", x.which(0), 11);
         due("26 limit is no matter", x.which(1), 2047);
-        rowOf(x, 127, 2);
+        Guards.rowOf(x, 127, 2);
         due("26 too many", x.which(0), 2);
         due("26 by no limit", x.which(1), 0);
         due("26 it stays", x.count(6), 2);
-        rowOf(x, 127, 2, 3, 1);
+        Guards.rowOf(x, 127, 2, 3, 1);
         due("26 both", x.which(0), 2);
-        rowOf(x, 127, 2, 3, 2);
+        Guards.rowOf(x, 127, 2, 3, 2);
         due("26 none", x.which(0), 0);
         x.ask(0, 3, 0);
         x.ask(0, 12, 0);
         x.rule(3);
-        rowOf(x, 48, 1);
+        Guards.rowOf(x, 48, 1);
         due("26 limits above 2", x.which(1), 2047 - 7);
-        rowOf(x, 48, 2);
+        Guards.rowOf(x, 48, 2);
         due("26 limits to 2", x.which(1), 7);
-        rowOf(x, 15, 0);
+        Guards.rowOf(x, 15, 0);
         due("26 spanned by all", x.which(0), 15);
-        rowOf(x, 15, 3);
+        Guards.rowOf(x, 15, 3);
         due("26 above 2", x.which(0), 0);
         due("26 above 2", x.which(1), 0);
-        rowOf(x, 15);
+        Guards.rowOf(x, 15);
         due("26 unwhole", x.which(0), -3);
         due("26 other goes ahead", x.which(2), -2);
-        rowOf(x, 15, 0, 0, 1);
+        Guards.rowOf(x, 15, 0, 0, 1);
         due("26 a is 0", x.which(1), -3);
         due("26 other", x.which(-1), -2);
         due("26 it stays", x.count(6), 4);
@@ -794,24 +765,24 @@ public final class PromisesTest {
     }
 
     private static void judge() {
-        GuardOfSums x = tens();
+        GuardOfSums x = Guards.tens();
         due("28 no rows", x.judge(), -9);
         x.ask(0, 3, 0);
         x.ask(0, 12, 0);
-        rowOf(x, 10, 20, 30, 40);
+        Guards.rowOf(x, 10, 20, 30, 40);
         due("28 so", x.judge(), -9);
         due("28 has none then", x.count(6), 0);
-        rowOf(x, 20, 10);
+        Guards.rowOf(x, 20, 10);
         due("28 so as well", x.judge(), -9);
-        rowOf(x, 20, 20, 0);
+        Guards.rowOf(x, 20, 20, 0);
         due("28 the first", x.judge(), 0);
         due("28 has none then", x.count(6), 0);
-        rowOf(x, 10, 20, 31);
+        Guards.rowOf(x, 10, 20, 31);
         due("28 the second", x.judge(), 1);
-        rowOf(x, 10, 20, 30, 40, 255, 255, 255, 255, 255, 255, 255, 255);
+        Guards.rowOf(x, 10, 20, 30, 40, 255, 255, 255, 255, 255, 255, 255, 255);
         due("28 more is no matter", x.judge(), -9);
         x.changes(0, 5);
-        rowOf(x, 10, 20, 30, 40, 0, 0, 0, 0, 77);
+        Guards.rowOf(x, 10, 20, 30, 40, 0, 0, 0, 0, 77);
         due("28 by variables", x.judge(), -9);
     }
 
@@ -825,7 +796,7 @@ public final class PromisesTest {
     }
 
     private static void lots() {
-        GuardOfSums x = tens();
+        GuardOfSums x = Guards.tens();
         x.rule(3);
         x.limit(0);
         due("30 none joins", x.lots(20, 5, 0), 0);
@@ -849,7 +820,7 @@ public final class PromisesTest {
     }
 
     private static void image() {
-        GuardOfSums x = tens();
+        GuardOfSums x = Guards.tens();
         due("32 none", x.on(), -3);
         x.rule(1);
         x.limit(7);
@@ -857,7 +828,7 @@ public final class PromisesTest {
         x.ask(0, 3, 0);
         x.changes(2, 66);
         due("31 rank", x.image(), 1);
-        spell(x, "r0;");
+        Guards.spell(x, "r0;");
         x.row(9);
         x.rule(0);
         x.limit(0);
@@ -888,10 +859,10 @@ public final class PromisesTest {
     }
 
     private static void count() {
-        GuardOfSums x = tens();
+        GuardOfSums x = Guards.tens();
         x.ask(0, 129, 0);
         x.changes(0, 9);
-        spell(x, "ab");
+        Guards.spell(x, "ab");
         x.row(4);
         int[] want = {1, 9, 0, 4, 129, 359, 1, 2};
         for (int what = 0; what < 8; what++) {
