@@ -8,6 +8,7 @@ public final class EdgesOfLooksTest {
     public static void main(String[] args) {
         wouldOfEach();
         leastThatJoins();
+        leastThatIsTheGreatest();
         noneThatJoins();
         howManyOfAll();
         reducedOne();
@@ -28,6 +29,7 @@ public final class EdgesOfLooksTest {
         narrowedOverOldVariables();
         sixtyRounds();
         narrowedCountsAtOnce();
+        narrowedCountsAtOnceFromBelow();
         width();
         known();
         tellsWhateverTheRule();
@@ -59,6 +61,7 @@ public final class EdgesOfLooksTest {
         imageOfAll();
         imageWithout();
         imageAgain();
+        imageOfFractions();
         DUE.close("EdgesOfLooksTest");
     }
 
@@ -91,6 +94,24 @@ public final class EdgesOfLooksTest {
         GuardOfSums x = new GuardOfSums();
         x.rule(2);
         due("PAIRED", x.sums(0), 7);
+    }
+
+    private static void leastThatIsTheGreatest() {
+        sentence("By all SUMS (a 1 .. 255): the greatest a, too");
+        GuardOfSums x = Guards.allButEverybodyRefused();
+        due("RANK", x.count(0), 6);
+        due("the least a that JOINS", x.sums(0), 255);
+        due("how many JOIN", x.sums(1), 1);
+        due("are REFUSED", x.sums(2), 254);
+        due("are SPANNED", x.sums(3), 0);
+        due("CHEAPEST", x.cheapest(0), 255);
+        due("CHEAPEST: SIZE", x.cheapest(1), 8);
+        due("SHARE above", x.share(0), 1);
+        due("SHARE below", x.share(1), 255);
+        due("asked", x.ask(0, 255, 0), 0);
+        due("none is left", x.sums(0), -9);
+        due("one is SPANNED", x.sums(3), 1);
+        due("none is left", x.cheapest(1), -9);
     }
 
     private static void noneThatJoins() {
@@ -462,6 +483,27 @@ public final class EdgesOfLooksTest {
         }
     }
 
+    /** The same from the other side: each VALUE, LOW and HIGH less than 99 by what it was above 0. */
+    private static void narrowedCountsAtOnceFromBelow() {
+        sentence("what is narrowed counts at once, LEAST as MOST");
+        GuardOfSums x = Guards.of(1, 97, 67, 4, 98, 27, 99, 99);
+        int[] lows = {0, 0, 0, 4, 0, 0, 0, 79};
+        int[] highs = {96, 97, 99, 98, 98, 70, 99, 99};
+        for (int v = 0; v < 8; v++) {
+            x.bounds(v, lows[v], highs[v]);
+        }
+        int[][] asked = {{2, 109, 2}, {0, 15, 0}, {2, 45, 3}, {2, 48, 2}, {2, 81, 3}, {1, 16, 129}, {2, 153, 3}};
+        for (int[] q : asked) {
+            x.ask(q[0], q[1], q[2]);
+        }
+        due("RANK", x.count(0), 7);
+        int[] least = {1, 95, 67, 4, 98, 27, 98, 99};
+        int[] most = {2, 97, 67, 4, 98, 27, 99, 99};
+        for (int v = 0; v < 8; v++) {
+            ends(x, v, least[v], most[v]);
+        }
+    }
+
     private static void width() {
         sentence("WIDTH: MOST less LEAST and 1");
         GuardOfSums x = Guards.of(0, 99, 50);
@@ -536,6 +578,9 @@ public final class EdgesOfLooksTest {
         GuardOfSums x = Guards.tens();
         due("of all the same the first", x.learns(0, 255, 0, 1), 0);
         due("of two the first", x.learns(0, 12, 0, 1), 2);
+        for (int v = 0; v < 8; v++) {
+            due("the only one", x.learns(0, 1 << v, 0, 1), v);
+        }
         x.bounds(7, 80, 80);
         due("one that is not asked for", x.learns(0, 12, 0, 1), 7);
         due("its WIDTH", x.learns(0, 12, 0, 0), 1);
@@ -1015,5 +1060,34 @@ public final class EdgesOfLooksTest {
         y.image();
         due("ON from a full one", y.on(), 9);
         due("PIVOTS", y.pivots(), 511);
+    }
+
+    private static void imageOfFractions() {
+        sentence("ON from it all is as then: REDUCED, too");
+        GuardOfSums x = new GuardOfSums();
+        x.image();
+        x.ask(2, 44, 3);
+        fraction(x, 0, 3, 1, 3);
+        x.on();
+        x.ask(2, 44, 3);
+        fraction(x, 0, 3, 1, 3);
+        fraction(x, 0, 5, 1, 1);
+        x.image();
+        x.ask(2, 10, 2);
+        // 2 of 1, 2 of 3
+        fraction(x, 0, 3, 1, 1);
+        fraction(x, 1, 3, 1, 3);
+        x.on();
+        fraction(x, 0, 3, 1, 3);
+        x.ask(1, 8, 6);
+        // -1 of 1, -1 of 2, 1 of 3: 1 0 -4/3 0 -1 and 0 1 1/3 0 1 of 1 .. 5
+        fraction(x, 0, 1, 1, 1);
+        fraction(x, 0, 2, 0, 1);
+        fraction(x, 0, 3, -4, 3);
+        fraction(x, 0, 5, -1, 1);
+        fraction(x, 1, 3, 1, 3);
+        x.learns(2, 255, 3, 0);
+        x.lots(2, 5, 0);
+        fraction(x, 0, 3, -4, 3);
     }
 }

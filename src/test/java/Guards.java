@@ -63,4 +63,18 @@ final class Guards {
         x.ask(1, 1, 64);
         return x;
     }
+
+    /** By PAIRED no SUM is SPANNED, and of all of them the one of everybody JOINS alone. */
+    static GuardOfSums allButEverybodyRefused() {
+        GuardOfSums x = new GuardOfSums();
+        x.rule(2);
+        x.ask(1, 179, 64);
+        x.ask(0, 107, 0);
+        x.changes(0, 0);
+        x.ask(1, 72, 132);
+        x.ask(1, 225, 2);
+        x.ask(1, 73, 2);
+        x.ask(1, 15, 144);
+        return x;
+    }
 }
